@@ -196,9 +196,13 @@ public final class RollingTransit {
             count = newCount;
         }
 
+        private boolean has(int from, int stretch) {
+            return from >= 0 && from <= count - stretch;
+        }
+
         /** Whether a stretch of this row is, letter by letter, a stretch of that length of another. */
         boolean matches(int from, Letters other, int otherFrom, int stretch) {
-            if (from < 0 || otherFrom < 0 || from > count - stretch || otherFrom > other.count - stretch) {
+            if (!has(from, stretch) || !other.has(otherFrom, stretch)) {
                 return false;
             }
             for (int i = 0; i < stretch; i++) {
@@ -318,7 +322,7 @@ public final class RollingTransit {
 
         /** Whether two values are same; the depth says how deep both are in those asked for first. */
         private static boolean alike(Tree a, int i, Tree b, int j, int depth) {
-            if (depth > VALUE_DEPTH
+            if (depth >= VALUE_DEPTH
                     || a.kinds[i] != b.kinds[j]
                     || a.numbers[i] != b.numbers[j]
                     || a.parts[i] != b.parts[j]
@@ -785,7 +789,9 @@ public final class RollingTransit {
             } else if (kind != NONE) {
                 requireArray(top, kind);
                 tree.kinds[top] = kind;
-                refuseTwins(top);
+                if (kind != LIST) {
+                    refuseTwins(top);
+                }
             }
             starts[top] = start;
         }
@@ -813,9 +819,6 @@ public final class RollingTransit {
 
         /** Looks in a SET for a part, or in a MAP for a key, that is same as one before it. */
         private void refuseTwins(int top) {
-            if (tree.kinds[top] == LIST) {
-                return;
-            }
             boolean paired = tree.kinds[top] == MAP;
             int step = paired ? 2 : 1;
             int later = top + 1;

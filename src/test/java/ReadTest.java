@@ -42,6 +42,8 @@ public final class ReadTest {
         "~c~" => char 126
         "~z" => tagged 'z'(str '')
         "~A~~b" => tagged 'A'(str '~~b')
+        "~Zz" => tagged 'Z'(str 'z')
+        "~aa" => tagged 'a'(str 'a')
         "~I5" => tagged 'I'(str '5')
         "~M" => tagged 'M'(str '')
         "~Cab" => tagged 'C'(str 'ab')
@@ -109,6 +111,8 @@ public final class ReadTest {
         codesLiveInOneRead();
         slotsAndCounts();
         fullTexts();
+        depthInMaps();
+        nothingIsLeftOfEarlierReads();
         Check.end();
     }
 
@@ -182,6 +186,34 @@ public final class ReadTest {
         p.put("[\"later\"]");
         Check.due("read(1) again", p.read(1), "2");
         Check.due("slot 1 new", p.told(1), "array(str 'later')");
+    }
+
+    private static void depthInMaps() {
+        String open = "[[[[[[";
+        String close = "]]]]]]";
+        Check.due("value in the eighth", new Probe().put(open + "[\"^ \",1,[]]" + close).read(0), "9");
+        Check.due("key in the eighth", new Probe().put(open + "[\"^ \",[],1]" + close).read(0), "9");
+        Check.due("content in the eighth", new Probe().put(open + "[\"~#a\",[]]" + close).read(0), "8");
+        String ninth = "IllegalArgumentException";
+        Check.due("value in the ninth", new Probe().put(open + "[[\"^ \",1,[]]]" + close).read(0), ninth);
+        Check.due("key in the ninth", new Probe().put(open + "[[\"^ \",[],1]]" + close).read(0), ninth);
+        Check.due("content in the ninth", new Probe().put(open + "[[\"~#a\",[]]]" + close).read(0), ninth);
+    }
+
+    private static void nothingIsLeftOfEarlierReads() {
+        Probe p = new Probe();
+        for (int i = 0; i < 9; i++) {
+            String word = String.valueOf((char) ('a' + i)).repeat(230);
+            Check.due("long read " + i, p.put("[\"" + word + "\"]").read(i % 2), "2");
+            Check.due("long word " + i, p.told(i % 2), "array(str '" + word + "')");
+        }
+        for (int i = 0; i < 3; i++) {
+            p.put("[[1,2],\"abc\",[\"~#tag\",3]]").read(0);
+            p.put("[1,2,3,4,5,[6],[]]").read(0);
+            Check.due("numbers", p.told(0), "array(int 1, int 2, int 3, int 4, int 5, array(int 6), array())");
+            p.put("[[],null,[],[],\"~ca\",true,[]]").read(0);
+            Check.due("others", p.told(0), "array(array(), null, array(), array(), char 97, bool 1, array())");
+        }
     }
 
     private static void fullTexts() {

@@ -77,8 +77,10 @@ public final class WriteTest {
         Probe.eachRow(CODES, WriteTest::writes);
         manyCodes();
         slots();
+        longWords();
         tooLong();
         tooDeep();
+        textStaysBehindWrite();
         Check.end();
     }
 
@@ -114,6 +116,34 @@ public final class WriteTest {
         // The 25th word has the others forgotten, so the first one is noted anew, with the number 1.
         writes("[" + keywords(25) + "," + keyword(24) + "," + keyword(0) + "," + keyword(0) + "]",
                 "[" + keywords(25) + ",\"^0\"," + keyword(0) + ",\"^1\"]");
+    }
+
+    private static void longWords() {
+        String text = "[\"~:" + "x".repeat(115) + "\"" + ",\"^0\"".repeat(23) + "]";
+        Probe p = new Probe().put(text);
+        p.read(0);
+        for (int i = 0; i < 9; i++) {
+            Check.due("long word, time " + i, p.written(0), text);
+        }
+        String other = "[\"" + "y".repeat(200) + "\",\"~:abc\",\"^0\"]";
+        p.put(other).read(1);
+        for (int i = 0; i < 9; i++) {
+            Check.due("another one, time " + i, p.written(1), other);
+        }
+    }
+
+    private static void textStaysBehindWrite() {
+        Probe p = new Probe().put("\"" + "a".repeat(238) + "\"");
+        p.read(0);
+        p.put("[1,2]").read(1);
+        for (int i = 0; i < 3; i++) {
+            Check.due("written", p.written(1), "[1,2]");
+            Check.due("refused", p.written(0), "UnsupportedOperationException");
+            Check.due("text stays", p.text(), "[1,2]");
+            p.x.type(',');
+            Check.due("refused again", p.written(0), "UnsupportedOperationException");
+            Check.due("text stays again", p.text(), "[1,2],");
+        }
     }
 
     private static void slots() {
@@ -155,6 +185,13 @@ public final class WriteTest {
         return Probe.answer(() -> p.x.write(0));
     }
 
+    private static void fitsInEight(String text, boolean fits) {
+        Probe p = new Probe().put(text);
+        Check.due("read of " + text, p.read(0).matches("\\d+"), true);
+        String refused = "UnsupportedOperationException";
+        Check.due("written for " + text, p.written(0).equals(refused), !fits);
+    }
+
     private static void tooDeep() {
         String seven = "[[[[[[[\"~zx\"]]]]]]]";
         writes(seven, "[[[[[[[[\"~#z\",\"x\"]]]]]]]]");
@@ -174,6 +211,12 @@ public final class WriteTest {
         p.put("[[[[[[\"^ \",[],1]]]]]]");
         Check.due("map in seven", p.read(1), "8");
         Check.due("cmap in eight", p.written(1), "[[[[[[\"~#cmap\",[[],1]]]]]]]");
+        writes("[[[[[[[\"^ \",\"a\",[]]]]]]]]", "[[[[[[[\"^ \",\"a\",[]]]]]]]]");
+        writes("[[[[[[[\"~#a\",[]]]]]]]]", "[[[[[[[\"~#a\",[]]]]]]]]");
+        fitsInEight("[[[[[[[\"^ \",\"a\",\"~zx\"]]]]]]]", true);
+        fitsInEight("[[[[[[[[\"^ \",\"a\",\"~zx\"]]]]]]]]", false);
+        fitsInEight("[[[[[[[\"~#a\",\"~zx\"]]]]]]]", true);
+        fitsInEight("[[[[[[[[\"~#a\",\"~zx\"]]]]]]]]", false);
         p.put("[[[[[[[[\"~#'\",5]]]]]]]]");
         Check.due("quoted", p.read(1), "8");
         Check.due("quote is gone", p.written(1), "[[[[[[[5]]]]]]]");
