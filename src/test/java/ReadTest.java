@@ -93,6 +93,7 @@ public final class ReadTest {
         ["~:\\"\\\\","^0"] => array(key '"\\', key '"\\')
         [["^ ","name",1],["^ ","^0",2],"^0"] => array(map(str 'name', int 1), map(str 'name', int 2), str 'name')
         [["^ ","~i12",1],"^0"] => array(map(int 12, int 1), int 12)
+        [["^ ","~i12",1,"3",2],"^0"] => array(map(int 12, int 1, str '3', int 2), int 12)
         [["^ ","~i1","name","~zab",3],"^0"] => array(map(int 1, str 'name', tagged 'z'(str 'ab'), int 3), tagged 'z'(str 'ab'))
         [["^ ","~~ab",1],"^0"] => array(map(str '~ab', int 1), str '~ab')
         [["^ ",["name","text"],1,"word",2],"^0"] => array(map(array(str 'name', str 'text'), int 1, str 'word', int 2), str 'word')
