@@ -4,6 +4,8 @@ import java.util.Objects;
 final class Check {
     private static int checked = 0;
     private static int wrong = 0;
+    private static String words = "";
+    private static int before = 0;
 
     private Check() {
     }
@@ -12,12 +14,28 @@ final class Check {
         checked++;
         if (!Objects.equals(got, due)) {
             wrong++;
-            System.out.println(what + " answered " + got + ", due is " + due);
+            System.out.println(words + what + " answered " + got + ", due is " + due);
         }
+    }
+
+    /** Says which words of the document the answers that follow are to show, until the next ones. */
+    static void sentence(String quoted) {
+        endSentence();
+        words = "\"" + quoted + "\": ";
+        before = checked;
+    }
+
+    private static void endSentence() {
+        if (!words.isEmpty() && checked == before) {
+            wrong++;
+            System.out.println(words + "nothing was looked at");
+        }
+        words = "";
     }
 
     /** Ends the test: exit code 1 if an answer was wrong, or if nothing was checked. */
     static void end() {
+        endSentence();
         System.out.println(checked + " answers looked at, " + wrong + " of them wrong");
         System.exit(wrong == 0 && checked > 0 ? 0 : 1);
     }

@@ -51,10 +51,16 @@ final class Probe {
 
     String text() {
         StringBuilder all = new StringBuilder();
-        for (int k = 0; k < x.length(); k++) {
+        int length = x.length();
+        for (int k = 0; k < length; k++) {
             all.append((char) x.at(k));
         }
         return all.toString();
+    }
+
+    /** All that can be seen of an object but what fault answers. */
+    String state() {
+        return "text " + text() + " slot 0 " + told(0) + " slot 1 " + told(1) + " same " + x.same();
     }
 
     String read(int slot) {
