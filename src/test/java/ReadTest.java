@@ -126,16 +126,8 @@ public final class ReadTest {
         Check.due("text stays", p.text(), text);
     }
 
-    private static String keywords(int count) {
-        StringBuilder text = new StringBuilder("[");
-        for (int i = 0; i < count; i++) {
-            text.append(i > 0 ? "," : "").append("\"~:").append((char) ('a' + i)).append("x\"");
-        }
-        return text.toString();
-    }
-
     private static String readWith(int count, String code) {
-        Probe p = new Probe().put(keywords(count) + ",\"" + code + "\"]");
+        Probe p = new Probe().put("[" + Edge.keywords(count) + ",\"" + code + "\"]");
         String answer = p.read(1);
         if (!answer.equals(String.valueOf(count + 2))) {
             return answer;

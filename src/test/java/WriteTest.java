@@ -96,26 +96,14 @@ public final class WriteTest {
         Check.due("written again for " + text, p.written(1), due);
     }
 
-    private static String keyword(int i) {
-        return "\"~:" + (char) ('a' + i) + "x\"";
-    }
-
-    private static String keywords(int count) {
-        StringBuilder text = new StringBuilder();
-        for (int i = 0; i < count; i++) {
-            text.append(i > 0 ? "," : "").append(keyword(i));
-        }
-        return text.toString();
-    }
-
     private static void manyCodes() {
-        writes("[" + keywords(8) + "," + keyword(5) + "," + keyword(6) + "," + keyword(7) + "]",
-                "[" + keywords(8) + ",\"^5\",\"^10\",\"^11\"]");
-        writes("[" + keywords(24) + "," + keyword(23) + "," + keyword(0) + "]",
-                "[" + keywords(24) + ",\"^35\",\"^0\"]");
+        writes("[" + Edge.keywords(8) + "," + Edge.keyword(5) + "," + Edge.keyword(6) + "," + Edge.keyword(7) + "]",
+                "[" + Edge.keywords(8) + ",\"^5\",\"^10\",\"^11\"]");
+        writes("[" + Edge.keywords(24) + "," + Edge.keyword(23) + "," + Edge.keyword(0) + "]",
+                "[" + Edge.keywords(24) + ",\"^35\",\"^0\"]");
         // The 25th word has the others forgotten, so the first one is noted anew, with the number 1.
-        writes("[" + keywords(25) + "," + keyword(24) + "," + keyword(0) + "," + keyword(0) + "]",
-                "[" + keywords(25) + ",\"^0\"," + keyword(0) + ",\"^1\"]");
+        writes("[" + Edge.keywords(25) + "," + Edge.keyword(24) + "," + Edge.keyword(0) + "," + Edge.keyword(0) + "]",
+                "[" + Edge.keywords(25) + ",\"^0\"," + Edge.keyword(0) + ",\"^1\"]");
     }
 
     private static void longWords() {
