@@ -1,6 +1,7 @@
 /**
  * Reads values from a text of brackets, numbers and strings in which strings that come again may
- * stand as short codes, and writes values in the one way that is prescribed.
+ * stand as short codes and arrays can mean sets, lists, maps and values with tags, and writes
+ * values in the one way that is prescribed.
  */
 public final class RollingTransit {
     public static final int NONE = -1;

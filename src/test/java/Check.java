@@ -1,9 +1,14 @@
+import java.io.IOException;
+import java.nio.file.Files;
+import java.nio.file.Path;
 import java.util.Objects;
 
 /** Counts and prints the answers that are not the ones that are due. */
 final class Check {
+    private static final Path DOCUMENT = Path.of("../shared/DOC.md");
     private static int checked = 0;
     private static int wrong = 0;
+    private static String document = "";
     private static String words = "";
     private static int before = 0;
 
@@ -18,11 +23,35 @@ final class Check {
         }
     }
 
-    /** Says which words of the document the answers that follow are to show, until the next ones. */
+    /**
+     * Says which words of the document the answers that follow are to show, until the next ones;
+     * [..] stands for words that are left out.
+     */
     static void sentence(String quoted) {
         endSentence();
+        for (String stretch : quoted.split("\\[\\.\\.\\]")) {
+            due("the document has: " + stretch, document().contains(stretch.strip()), true);
+        }
         words = "\"" + quoted + "\": ";
         before = checked;
+    }
+
+    /** The same, with what the answers that follow show of these words. */
+    static void sentence(String quoted, String shown) {
+        sentence(quoted);
+        words += "(" + shown + ") ";
+    }
+
+    /** The document as one line, as its sentences go over several. */
+    private static String document() {
+        if (document.isEmpty()) {
+            try {
+                document = Files.readString(DOCUMENT).replaceAll("```\\w*", " ").replaceAll("\\s+", " ");
+            } catch (IOException e) {
+                throw new AssertionError("no document at " + DOCUMENT, e);
+            }
+        }
+        return document;
     }
 
     private static void endSentence() {

@@ -105,7 +105,7 @@ public final class EdgeCallTest {
     }
 
     private static void refusedWrites() {
-        Check.sentence("A call that throws changes nothing (write)");
+        Check.sentence("A call that throws changes nothing", "write");
         for (String text : new String[] {TOO_LONG, TOO_DEEP}) {
             Probe p = new Probe().put(text);
             p.read(0);
@@ -153,7 +153,7 @@ public final class EdgeCallTest {
     }
 
     private static void lastCallOfMany() {
-        Check.sentence("An object is used for at most 512 calls (each with words of its own)");
+        Check.sentence("An object is used for at most 512 calls", "each with words of its own");
         Probe p = new Probe();
         // A round takes seven calls at most, so that some are left to look at what is there in the end.
         for (int round = 0; round < 64; round++) {

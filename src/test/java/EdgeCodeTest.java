@@ -238,7 +238,7 @@ public final class EdgeCodeTest {
     }
 
     private static void ofOneText() {
-        Check.sentence("is NOTED when it is met (in this text, not in one that was read or written before)");
+        Check.sentence("is NOTED when it is met", "in this text, not in one that was read or written before");
         Probe p = new Probe().put("[\"~:ab\",\"~:cd\"]");
         p.read(0);
         p.written(0);

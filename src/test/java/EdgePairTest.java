@@ -122,7 +122,7 @@ public final class EdgePairTest {
     }
 
     private static void deepest() {
-        Check.sentence("Arrays may stand in one another 8 deep. (and values that deep are same or not)");
+        Check.sentence("Arrays may stand in one another 8 deep.", "values that deep are same or not");
         String open = "[[[[[[[[";
         String close = "]]]]]]]]";
         compare(open + "\"~za\"" + close, open + "\"~za\"" + close, true);
@@ -183,7 +183,8 @@ public final class EdgePairTest {
     }
 
     private static void pickedWords() {
-        Check.sentence("The slot's value becomes value k in it alone (and is written and compared as one that was read)");
+        Check.sentence(
+                "The slot's value becomes value k in it alone", "it is written and compared as one that was read");
         Probe p = new Probe().put("[\"~:first\",[\"^ \",\"name\",[\"~:first\",\"~:first\"],\"more\",\"name\"]]");
         p.read(0);
         p.x.pick(0, 2);
@@ -204,7 +205,7 @@ public final class EdgePairTest {
     }
 
     private static void pickRefused() {
-        Check.sentence("IndexOutOfBoundsException when slot is not 0 or 1, or it has no value k. (pick)");
+        Check.sentence("IndexOutOfBoundsException when slot is not 0 or 1, or it has no value k.", "pick");
         for (int slot : Edge.NO_SLOTS) {
             for (int k = -1; k < 2; k++) {
                 int v = k;

@@ -40,7 +40,7 @@ public final class EdgeTextTest {
     }
 
     private static void objectsOfTheirOwn() {
-        Check.sentence("An empty text, empty slots. (beside an object that has both)");
+        Check.sentence("An empty text, empty slots.", "beside an object that has both");
         Probe old = Edge.busy();
         String state = old.state();
         Probe p = new Probe();

@@ -128,7 +128,8 @@ public final class EdgeWriteTest {
         Check.sentence("and all that are keys of a map written with ^ and a space, as strings that mean them");
         Probe.eachRow(KEYS, Edge::written);
         fronts();
-        Check.sentence("An ARRAY as an array of its parts; a SET or LIST as an array of its string and an array of its parts; TAGGED as an array of ~# with its tag, and its part.");
+        Check.sentence("An ARRAY as an array of its parts; a SET or LIST as an array of its string (~#set, ~#list) and"
+                + " an array of its parts; [..] TAGGED as an array of ~# with its tag, and its part.");
         Probe.eachRow(COLLECTIONS, Edge::written);
         Check.sentence("a MAP whose keys are all SIMPLE as an array of ^ and a space and its parts, any other one as one of ~#cmap");
         Probe.eachRow(MAPS, Edge::written);
@@ -190,7 +191,7 @@ public final class EdgeWriteTest {
     }
 
     private static void allNumbersUsed() {
-        Check.sentence("when all are used, all that were noted are forgotten before, and it gets 0. (in writing)");
+        Check.sentence("when all are used, all that were noted are forgotten before, and it gets 0.", "in writing");
         String words = Edge.keywords(25);
         Edge.written("[" + words + "," + Edge.keyword(24) + "]", "[" + words + ",\"^0\"]");
         for (int n = 0; n < 24; n++) {
@@ -231,7 +232,7 @@ public final class EdgeWriteTest {
     }
 
     private static void tooLongByEachPart() {
-        Check.sentence("UnsupportedOperationException when it would have more than 240 characters (in each part of it)");
+        Check.sentence("UnsupportedOperationException when it would have more than 240 characters", "in each part of it");
         // What is read as a part, and in the same order what is written for it.
         String[] parts = {
             "\"~z\"", "\"~zab\"", "[\"^ \",1,2]", "[\"^ \",12,2]", "[\"^ \",null,2]", "[\"^ \",true,2]", "[\"^ \",[],2]",
@@ -253,7 +254,7 @@ public final class EdgeWriteTest {
     }
 
     private static void fitsByCodesAlone() {
-        Check.sentence("is written as its code [..] instead. (so it fits, though the words alone would not)");
+        Check.sentence("is written as its code [..] instead.", "so it fits, though the words alone would not");
         for (int more = 0; more <= 40; more++) {
             String text = "[\"~:" + "x".repeat(34 + 5 * more) + "\"" + ",\"^0\"".repeat(40 - more) + "]";
             Check.due("length", text.length(), ROOM);
